@@ -67,6 +67,8 @@ public final class BillTest {
         Check.refuses("range before room", Check.RANGE, () -> books.bill(3, -1, 0, 0));
         Check.refuses("no bill 60", Check.UNKNOWN, () -> books.billAt(60, 0));
         Check.answers("the last bill", 60, () -> books.billAt(59, 0));
+        Check.answers("all 60 are reminded", 60, () -> books.remind(1));
+        Check.answers("the last bill is reminded", 1, () -> books.billAt(59, 3));
     }
 
     private static void mostOfABill() {

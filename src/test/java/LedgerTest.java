@@ -10,9 +10,11 @@ public final class LedgerTest {
         allYearsClosed();
         unknownYearKeepsTheBatch();
         greatBalances();
+        eachBalanceIsItsOwn();
         balanceRefusals();
         yearsCloseInOrder();
         openOrdersKeepAYearOpen();
+        firstAndLastOrderKeepAYearOpen();
         closeRefusals();
         Check.finish("LedgerTest");
     }
@@ -155,6 +157,25 @@ public final class LedgerTest {
         Check.refuses("8 times the most", Check.STATE, () -> books.post(1));
     }
 
+    private static void eachBalanceIsItsOwn() {
+        CostBooks books = new CostBooks();
+        for (int year = 0; year < 5; year++) {
+            for (int account = 1; account < 10; account++) {
+                books.row(account, 100 * account + year);
+                books.row(0, -100 * account - year);
+                books.post(year);
+            }
+        }
+        for (int year = 0; year < 5; year++) {
+            int y = year;
+            for (int account = 1; account < 10; account++) {
+                int a = account;
+                Check.answers("balance " + a + " in " + y, 100L * a + y, () -> books.balance(a, y));
+            }
+            Check.answers("balance 0 in " + y, -4_500L - 9 * y, () -> books.balance(0, y));
+        }
+    }
+
     private static void balanceRefusals() {
         CostBooks books = new CostBooks();
         for (int bad : Check.OUTSIDE_ALL) {
@@ -198,6 +219,28 @@ public final class LedgerTest {
         books.cancel(1);
         Check.does("cancelled", () -> books.close(1));
         Check.answers("spent stays", 10, () -> books.budgetAt(0, 9, 2));
+    }
+
+    private static void firstAndLastOrderKeepAYearOpen() {
+        CostBooks books = new CostBooks();
+        for (int i = 0; i < 60; i++) {
+            books.order(0, 0, 0);
+        }
+        for (int i = 1; i < 59; i++) {
+            books.cancel(i);
+        }
+        books.cancel(59);
+        Check.refuses("the first order is open", Check.STATE, () -> books.close(0));
+        books.cancel(0);
+        Check.does("none of 60 orders is open", () -> books.close(0));
+        CostBooks other = new CostBooks();
+        for (int i = 0; i < 60; i++) {
+            other.order(0, 0, 0);
+        }
+        for (int i = 0; i < 59; i++) {
+            other.cancel(i);
+        }
+        Check.refuses("the last order is open", Check.STATE, () -> other.close(0));
     }
 
     private static void closeRefusals() {

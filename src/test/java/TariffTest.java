@@ -15,7 +15,9 @@ public final class TariffTest {
         emptyText();
         wrongTextChangesNoTariff();
         rightTextReplacesAll();
-        bytesAboveSeven();
+        eachKindIsReplaced();
+        textsForgetWhatWasBefore();
+        bytesThatAreNoDigits();
         textsByChance();
         Check.finish("TariffTest");
     }
@@ -163,7 +165,36 @@ public final class TariffTest {
         Check.refuses("0+0 is free", Check.STATE, () -> books.bill(2, 60, 0, 0));
     }
 
-    private static void bytesAboveSeven() {
+    private static void eachKindIsReplaced() {
+        for (int kind = 0; kind < 10; kind++) {
+            int k = kind;
+            CostBooks books = Check.withTariff(kind + ":5+7;");
+            books.bill(kind, 60, 0, 0);
+            Check.answers("kind " + kind, 12, () -> books.billAt(0, 0));
+            Check.write(books, kind + ":6+8;");
+            Check.answers("kind " + kind + " told in a later text", 1, books::tariff);
+            books.bill(kind, 60, 0, 0);
+            Check.answers("kind " + kind + " anew", 14, () -> books.billAt(1, 0));
+            Check.write(books, (kind + 1) % 10 + ":1+1;");
+            Check.answers("another kind", 1, books::tariff);
+            Check.refuses("kind " + kind + " is free now", Check.STATE, () -> books.bill(k, 60, 0, 0));
+        }
+    }
+
+    private static void textsForgetWhatWasBefore() {
+        String[] broken = {"1", "1:", "1:0", "1:12345", "1:1+", "1:1+0", "1:1+123456", "1:1+1;2:"};
+        for (String text : broken) {
+            CostBooks books = new CostBooks();
+            Check.write(books, text);
+            Check.refuses("broken " + text, Check.STATE, books::tariff);
+            Check.write(books, "1:123456+654321;");
+            Check.answers("a text behind " + text, 1, books::tariff);
+            books.bill(1, 60, 0, 0);
+            Check.answers("the tariff behind " + text, 777_777, () -> books.billAt(0, 0));
+        }
+    }
+
+    private static void bytesThatAreNoDigits() {
         for (int b = 0; b < 256; b++) {
             if (b < '0' || b > '9') {
                 CostBooks books = new CostBooks();
