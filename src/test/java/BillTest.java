@@ -6,11 +6,17 @@ public final class BillTest {
         sixtyBills();
         mostOfABill();
         laterTariffChangesNoBill();
+        eachBegunHour();
         instalments();
         payRefusals();
+        billOfNothing();
+        greatestBillInInstalments();
         disputes();
+        eachDisputeIsItsOwn();
         disputeRefusals();
         reminders();
+        eachDueDay();
+        manyReminders();
         whoIsReminded();
         remindRefusals();
         billAtRefusals();
@@ -91,6 +97,18 @@ public final class BillTest {
         Check.answers("as it was billed", 11, () -> books.billAt(0, 0));
     }
 
+    private static void eachBegunHour() {
+        for (int hour = 0; hour < 28; hour++) {
+            CostBooks books = Check.withTariff("0:0+1;");
+            books.bill(0, 60 * hour, 0, 0);
+            books.bill(0, 60 * hour + 1, 0, 0);
+            books.bill(0, 60 * hour + 59, 0, 0);
+            Check.answers(hour + " hours", hour, () -> books.billAt(0, 0));
+            Check.answers(hour + " hours and a minute", hour + 1, () -> books.billAt(1, 0));
+            Check.answers(hour + " hours and 59 minutes", hour + 1, () -> books.billAt(2, 0));
+        }
+    }
+
     private static void instalments() {
         CostBooks books = Check.withTariff("3:100+0;");
         books.bill(3, 0, 0, 0);
@@ -123,6 +141,28 @@ public final class BillTest {
         Check.answers("nothing paid", 0, () -> books.billAt(0, 1));
     }
 
+    private static void billOfNothing() {
+        CostBooks books = Check.withTariff("3:0+1;");
+        Check.answers("a bill of nothing has a number", 0, () -> books.bill(3, 0, 0, 0));
+        Check.refuses("nothing to pay", Check.STATE, () -> books.pay(0, 1));
+        Check.refuses("no instalment of nothing", Check.RANGE, () -> books.pay(0, 0));
+        Check.answers("never reminded", 0, () -> books.remind(9_999));
+        Check.answers("a minute makes it open", 1, () -> books.bill(3, 1, 0, 0));
+        Check.answers("reminded", 1, () -> books.remind(9_999));
+    }
+
+    private static void greatestBillInInstalments() {
+        CostBooks books = Check.withTariff("3:0+900000;");
+        books.bill(3, 60_000, 100_000_000, 0);
+        for (int i = 1; i <= 10; i++) {
+            int left = 1_000_000_000 - 100_000_000 * i;
+            Check.answers("instalment " + i, left, () -> books.pay(0, 100_000_000));
+        }
+        Check.answers("all paid", 1_000_000_000, () -> books.billAt(0, 1));
+        Check.refuses("not a cent more", Check.STATE, () -> books.pay(0, 1));
+        Check.refuses("not open any more", Check.STATE, () -> books.dispute(0, true));
+    }
+
     private static void disputes() {
         CostBooks books = Check.withTariff("3:100+0;");
         books.bill(3, 0, 0, 0);
@@ -140,6 +180,25 @@ public final class BillTest {
         Check.does("a paid bill is disputed no more", () -> books.dispute(0, false));
         Check.refuses("a paid bill is not open", Check.STATE, () -> books.dispute(0, true));
         Check.answers("not disputed", 0, () -> books.billAt(0, 2));
+    }
+
+    private static void eachDisputeIsItsOwn() {
+        CostBooks books = Check.withTariff("3:1+1;");
+        for (int i = 0; i < 60; i++) {
+            books.bill(3, 0, 0, 0);
+        }
+        for (int i = 0; i < 60; i += 7) {
+            books.dispute(i, true);
+        }
+        for (int i = 0; i < 60; i++) {
+            int number = i;
+            Check.answers("disputed " + i, i % 7 == 0 ? 1 : 0, () -> books.billAt(number, 2));
+        }
+        Check.answers("the others are reminded", 51, () -> books.remind(1));
+        for (int i = 0; i < 60; i++) {
+            int number = i;
+            Check.answers("reminded " + i, i % 7 == 0 ? 0 : 1, () -> books.billAt(number, 3));
+        }
     }
 
     private static void disputeRefusals() {
@@ -171,6 +230,27 @@ public final class BillTest {
             int number = i;
             Check.answers("reminders of " + i, due[i], () -> books.billAt(number, 3));
         }
+    }
+
+    private static void eachDueDay() {
+        for (int due : new int[] {0, 1, 2, 4_999, 5_000, 9_997, 9_998}) {
+            CostBooks books = Check.withTariff("3:1+1;");
+            books.bill(3, 0, 0, due);
+            Check.answers("on the due day " + due, 0, () -> books.remind(due));
+            Check.answers("on the day behind " + due, 1, () -> books.remind(due + 1));
+            Check.answers("on the last day, due " + due, 1, () -> books.remind(9_999));
+            Check.answers("on the first day, due " + due, 0, () -> books.remind(0));
+            Check.answers("times", 2, () -> books.billAt(0, 3));
+        }
+    }
+
+    private static void manyReminders() {
+        CostBooks books = Check.withTariff("3:1+1;");
+        books.bill(3, 0, 0, 0);
+        for (int i = 1; i <= 500; i++) {
+            Check.answers("reminder " + i, 1, () -> books.remind(9_999));
+        }
+        Check.answers("500 times", 500, () -> books.billAt(0, 3));
     }
 
     private static void whoIsReminded() {

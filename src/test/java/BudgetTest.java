@@ -4,6 +4,9 @@ public final class BudgetTest {
         totalsAreKept();
         heldSpentAndFree();
         totalStaysAboveHeldAndSpent();
+        heldAloneAndSpentAlone();
+        fullBudget();
+        everyYearAndKindIsItsOwn();
         closedYearKeepsItsBudgets();
         wrongNumbers();
         refusalsInOrder();
@@ -59,6 +62,59 @@ public final class BudgetTest {
         Check.answers("nothing free", 0, () -> books.budgetAt(0, 0, 3));
     }
 
+    private static void heldAloneAndSpentAlone() {
+        CostBooks books = new CostBooks();
+        books.budget(0, 0, 1_000);
+        books.order(0, 0, 300);
+        Check.refuses("less than held", Check.STATE, () -> books.budget(0, 0, 299));
+        Check.refuses("0 is less than held", Check.STATE, () -> books.budget(0, 0, 0));
+        Check.does("just held", () -> books.budget(0, 0, 300));
+        books.invoice(0, 300);
+        Check.refuses("less than spent", Check.STATE, () -> books.budget(0, 0, 299));
+        Check.does("just spent", () -> books.budget(0, 0, 300));
+        Check.does("more again", () -> books.budget(0, 0, 301));
+        Check.answers("free", 1, () -> books.budgetAt(0, 0, 3));
+        books.order(0, 0, 1);
+        books.cancel(1);
+        Check.does("what is cancelled is not held", () -> books.budget(0, 0, 300));
+    }
+
+    private static void fullBudget() {
+        CostBooks books = new CostBooks();
+        books.budget(4, 9, 100_000_000);
+        books.order(4, 9, 60_000_000);
+        books.order(4, 9, 40_000_000);
+        books.invoice(0, 60_000_000);
+        int[] due = {100_000_000, 40_000_000, 60_000_000, 0};
+        for (int i = 0; i < due.length; i++) {
+            int what = i;
+            Check.answers("full budget " + i, due[i], () -> books.budgetAt(4, 9, what));
+        }
+        Check.refuses("a cent less than all", Check.STATE, () -> books.budget(4, 9, 99_999_999));
+        Check.does("all", () -> books.budget(4, 9, 100_000_000));
+        Check.refuses("a cent more than cents are", Check.RANGE, () -> books.budget(4, 9, 100_000_001));
+    }
+
+    private static void everyYearAndKindIsItsOwn() {
+        CostBooks books = new CostBooks();
+        for (int slot = 0; slot < 50; slot++) {
+            books.budget(slot / 10, slot % 10, 1_000);
+            books.order(slot / 10, slot % 10, 100 + slot);
+            if (slot % 3 == 0) {
+                books.invoice(slot, 100 + slot);
+            }
+        }
+        for (int slot = 0; slot < 50; slot++) {
+            int year = slot / 10;
+            int kind = slot % 10;
+            boolean isSpent = slot % 3 == 0;
+            Check.answers("held " + slot, isSpent ? 0 : 100 + slot, () -> books.budgetAt(year, kind, 1));
+            Check.answers("spent " + slot, isSpent ? 100 + slot : 0, () -> books.budgetAt(year, kind, 2));
+            Check.answers("free " + slot, 900 - slot, () -> books.budgetAt(year, kind, 3));
+            Check.answers("forecast " + slot, isSpent ? (100 + slot) * 73L : 0, () -> books.forecast(year, kind, 5));
+        }
+    }
+
     private static void closedYearKeepsItsBudgets() {
         CostBooks books = new CostBooks();
         books.budget(0, 4, 77);
@@ -105,6 +161,10 @@ public final class BudgetTest {
         Check.answers("rounded down", 36_865 / 2, () -> books.forecast(2, 5, 2));
         Check.answers("364 days", 101, () -> books.forecast(2, 5, 364));
         Check.answers("365 days", 101, () -> books.forecast(2, 5, 365));
+        for (int days = 1; days <= 365; days++) {
+            int went = days;
+            Check.answers("forecast of " + days + " days", 36_865 / days, () -> books.forecast(2, 5, went));
+        }
         Check.answers("another kind", 0, () -> books.forecast(2, 4, 1));
         books.order(2, 5, 99_999_899);
         books.invoice(1, 99_999_899);

@@ -2,6 +2,8 @@
 public final class GrantTest {
     public static void main(String[] args) {
         uses();
+        everyPurpose();
+        greatestGrant();
         twentyGrants();
         grantRefusals();
         useRefusals();
@@ -23,6 +25,35 @@ public final class GrantTest {
         Check.answers("the other grant", 0, () -> books.use(1, 3, 100_000_000));
         Check.answers("nothing of nothing", 0, () -> books.use(2, 9, 0));
         Check.refuses("some of nothing", Check.STATE, () -> books.use(2, 9, 1));
+    }
+
+    private static void everyPurpose() {
+        CostBooks books = new CostBooks();
+        for (int purpose = 0; purpose < 10; purpose++) {
+            books.grant(purpose, 10);
+        }
+        for (int grant = 0; grant < 10; grant++) {
+            for (int purpose = 0; purpose < 10; purpose++) {
+                int g = grant;
+                int p = purpose;
+                if (g == p) {
+                    Check.answers("its purpose " + p, 9, () -> books.use(g, p, 1));
+                } else {
+                    Check.refuses("grant " + g + " for " + p, Check.STATE, () -> books.use(g, p, 1));
+                }
+            }
+        }
+    }
+
+    private static void greatestGrant() {
+        CostBooks books = new CostBooks();
+        books.grant(0, 100_000_000);
+        Check.refuses("above cents", Check.RANGE, () -> books.use(0, 0, 100_000_001));
+        Check.answers("a cent stays", 1, () -> books.use(0, 0, 99_999_999));
+        Check.refuses("two of one", Check.STATE, () -> books.use(0, 0, 2));
+        Check.refuses("the most of one", Check.STATE, () -> books.use(0, 0, 100_000_000));
+        Check.answers("the last cent", 0, () -> books.use(0, 0, 1));
+        Check.answers("nothing of a used up grant", 0, () -> books.use(0, 0, 0));
     }
 
     private static void twentyGrants() {

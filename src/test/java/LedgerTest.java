@@ -7,7 +7,11 @@ public final class LedgerTest {
         unevenBatch();
         emptyBatch();
         nextOpenYear();
+        eachFirstOpenYear();
+        unevenBatchForAClosedYear();
         allYearsClosed();
+        fullBatchIsEmptyBehindPost();
+        oneAccountAlone();
         unknownYearKeepsTheBatch();
         greatBalances();
         eachBalanceIsItsOwn();
@@ -106,6 +110,68 @@ public final class LedgerTest {
         Check.answers("balance of 2", 11, () -> books.balance(0, 2));
         Check.answers("balance of 3", -7, () -> books.balance(1, 3));
         Check.answers("balance of 4", 0, () -> books.balance(1, 4));
+    }
+
+    private static void eachFirstOpenYear() {
+        CostBooks books = new CostBooks();
+        for (int open = 0; open < 5; open++) {
+            for (int year = 0; year < 5; year++) {
+                int y = year;
+                books.row(0, 1);
+                books.row(9, -1);
+                Check.answers("to " + y + " when " + open + " is open", Math.max(y, open), () -> books.post(y));
+            }
+            books.close(open);
+        }
+        // Year 0 got one row; each later one its own of each round, and those of the closed years before it.
+        int[] due = {1, 3, 5, 7, 9};
+        for (int year = 0; year < 5; year++) {
+            int y = year;
+            Check.answers("balance in " + y, due[y], () -> books.balance(0, y));
+            Check.answers("balance in " + y, -due[y], () -> books.balance(9, y));
+        }
+    }
+
+    private static void unevenBatchForAClosedYear() {
+        CostBooks books = new CostBooks();
+        books.close(0);
+        books.row(0, 1);
+        Check.refuses("uneven", Check.STATE, () -> books.post(0));
+        Check.answers("nothing in the closed year", 0, () -> books.balance(0, 0));
+        Check.answers("nothing in the next", 0, () -> books.balance(0, 1));
+        Check.answers("the batch is empty", 1, () -> books.row(0, 1));
+    }
+
+    private static void fullBatchIsEmptyBehindPost() {
+        CostBooks books = new CostBooks();
+        for (int round = 0; round < 3; round++) {
+            for (int i = 1; i <= 8; i++) {
+                int many = i;
+                int cents = round == 1 && i == 8 ? 1 : 0;
+                Check.answers("row " + i, many, () -> books.row(0, cents));
+            }
+            Check.refuses("no row 9", Check.NO_ROOM, () -> books.row(0, 0));
+            if (round == 1) {
+                Check.refuses("uneven by its last row", Check.STATE, () -> books.post(0));
+            } else {
+                Check.answers("even", 0, () -> books.post(0));
+            }
+        }
+        Check.answers("room again", 1, () -> books.row(0, 0));
+    }
+
+    private static void oneAccountAlone() {
+        CostBooks books = new CostBooks();
+        books.row(6, 100_000_000);
+        books.row(6, -100_000_000);
+        Check.answers("one account to itself", 3, () -> books.post(3));
+        Check.answers("no balance", 0, () -> books.balance(6, 3));
+        for (int i = 0; i < 7; i++) {
+            books.row(6, -1);
+        }
+        books.row(6, 8);
+        Check.refuses("a cent too much", Check.STATE, () -> books.post(3));
+        Check.answers("no balance", 0, () -> books.balance(6, 3));
     }
 
     private static void allYearsClosed() {

@@ -3,12 +3,17 @@ public final class OrderTest {
     public static void main(String[] args) {
         ordersHoldWhatIsFree();
         orderRefusals();
+        closedYears();
         sixtyOrders();
         bandAtFirst();
         bandEdges();
         bandRefusals();
+        everyBandOfAnOrder();
+        orderOfNothing();
+        greatestInvoice();
         invoiceMovesHeldToSpent();
         invoiceNeedsFreeCents();
+        lowerInvoiceNeedsNothingFree();
         invoiceRefusals();
         cancelFrees();
         cancelRefusals();
@@ -51,6 +56,20 @@ public final class OrderTest {
         books.close(1);
         Check.refuses("order of a closed year with free cents", Check.STATE, () -> books.order(1, 2, 1));
         Check.answers("refused orders took no number", 0, () -> books.order(2, 0, 0));
+    }
+
+    private static void closedYears() {
+        CostBooks books = new CostBooks();
+        for (int year = 0; year < 5; year++) {
+            int y = year;
+            books.budget(year, 0, 10);
+            Check.answers("order in the open year " + year, year, () -> books.order(y, 0, 10));
+            books.cancel(year);
+            books.close(year);
+            Check.refuses("order of nothing in " + year, Check.STATE, () -> books.order(y, 9, 0));
+            Check.refuses("order of what is free in " + year, Check.STATE, () -> books.order(y, 0, 10));
+            Check.refuses("a cancelled order in " + year, Check.STATE, () -> books.invoice(y, 10));
+        }
     }
 
     private static void sixtyOrders() {
@@ -113,6 +132,60 @@ public final class OrderTest {
         Check.refuses("band 1001", Check.RANGE, () -> books.band(1_001));
         Check.refuses("the band is as before", Check.STATE, () -> books.invoice(0, 111));
         Check.does("the band is as before", () -> books.invoice(0, 110));
+    }
+
+    private static void everyBandOfAnOrder() {
+        for (int thousandths = 0; thousandths <= 1_000; thousandths++) {
+            int band = 1_999 * thousandths / 1_000;
+            CostBooks books = withBudget(10_000);
+            books.band(thousandths);
+            books.order(1, 2, 1_999);
+            books.order(1, 2, 1_999);
+            String what = thousandths + " thousandths";
+            Check.refuses(what + ", one above", Check.STATE, () -> books.invoice(0, 1_999 + band + 1));
+            // Below the whole band there is no cent left to tell: -1 is outside the range.
+            Check.refuses(what + ", one below", band == 1_999 ? Check.RANGE : Check.STATE,
+                    () -> books.invoice(0, 1_999 - band - 1));
+            Check.does(what + ", upper edge", () -> books.invoice(0, 1_999 + band));
+            Check.does(what + ", lower edge", () -> books.invoice(1, 1_999 - band));
+            Check.answers(what + ", both spent", 3_998, () -> books.budgetAt(1, 2, 2));
+        }
+    }
+
+    private static void orderOfNothing() {
+        CostBooks books = withBudget(10);
+        books.band(1_000);
+        books.order(1, 2, 0);
+        Check.refuses("a cent for nothing", Check.STATE, () -> books.invoice(0, 1));
+        Check.does("nothing for nothing", () -> books.invoice(0, 0));
+        Check.refuses("once", Check.STATE, () -> books.invoice(0, 0));
+        Check.refuses("not open", Check.STATE, () -> books.cancel(0));
+        Check.answers("nothing spent", 0, () -> books.budgetAt(1, 2, 2));
+    }
+
+    private static void greatestInvoice() {
+        CostBooks books = withBudget(100_000_000);
+        books.band(1_000);
+        books.order(1, 2, 50_000_000);
+        Check.refuses("above cents", Check.RANGE, () -> books.invoice(0, 100_000_001));
+        Check.does("twice the order, all that is free", () -> books.invoice(0, 100_000_000));
+        Check.answers("all spent", 100_000_000, () -> books.budgetAt(1, 2, 2));
+        Check.answers("nothing free", 0, () -> books.budgetAt(1, 2, 3));
+        CostBooks other = withBudget(100_000_000);
+        other.band(1_000);
+        other.order(1, 2, 100_000_000);
+        Check.does("the greatest order for nothing", () -> other.invoice(0, 0));
+        Check.answers("all free", 100_000_000, () -> other.budgetAt(1, 2, 3));
+    }
+
+    private static void lowerInvoiceNeedsNothingFree() {
+        CostBooks books = withBudget(100);
+        books.order(1, 2, 100);
+        Check.answers("nothing free", 0, () -> books.budgetAt(1, 2, 3));
+        Check.refuses("a cent more", Check.STATE, () -> books.invoice(0, 101));
+        Check.does("a cent less", () -> books.invoice(0, 99));
+        Check.answers("a cent is free", 1, () -> books.budgetAt(1, 2, 3));
+        Check.answers("and may be ordered", 1, () -> books.order(1, 2, 1));
     }
 
     private static void invoiceMovesHeldToSpent() {

@@ -1,7 +1,3 @@
-import java.math.BigInteger;
-import java.util.ArrayList;
-import java.util.Comparator;
-import java.util.List;
 import java.util.Random;
 
 /** Promises 16 and 17: weight, share. */
@@ -10,6 +6,9 @@ public final class ShareTest {
         sharesByHand();
         weightsMayChange();
         greatestCents();
+        leftCentsByRemainders();
+        sharesSumToAll();
+        edgesOfAWeight();
         weightRefusals();
         shareRefusals();
         sharesByChance();
@@ -61,6 +60,50 @@ public final class ShareTest {
         shares(weighing(1_000), 100_000_000, 100_000_000, 0);
     }
 
+    private static void leftCentsByRemainders() {
+        // Of 1 cent: remainders are the weights; the greatest gets it, of the same the lowest house.
+        shares(weighing(1, 5, 3, 5, 0, 4), 1, 0, 1, 0, 0, 0, 0);
+        shares(weighing(1, 4, 3, 5, 0, 5), 1, 0, 0, 0, 1, 0, 0);
+        shares(weighing(5, 5, 3, 5, 0, 5), 1, 1, 0, 0, 0, 0, 0);
+        // Three houses have the same greatest remainder: two cents go to the lower two, three to all of them.
+        shares(weighing(5, 5, 3, 5, 0, 0), 2, 1, 1, 0, 0, 0, 0);
+        shares(weighing(5, 5, 3, 5, 0, 0), 3, 1, 1, 0, 1, 0, 0);
+        // A house whose part comes out even gets nothing of what is left, be it the lowest.
+        shares(weighing(2, 1, 1), 2, 1, 1, 0, 0, 0, 0);
+        shares(weighing(2, 1, 1), 6, 3, 2, 1, 0, 0, 0);
+        // A house without weight gets nothing, be it the lowest.
+        shares(weighing(0, 1, 1), 3, 0, 2, 1, 0, 0, 0);
+        shares(weighing(1, 1_000), 1, 0, 1, 0, 0, 0, 0);
+        shares(weighing(1, 1_000), 1_000, 1, 999, 0, 0, 0, 0);
+        shares(weighing(1, 1_000), 1_001, 1, 1_000, 0, 0, 0, 0);
+        shares(weighing(999, 1_000, 1_000, 1_000, 1_000, 1_000), 5, 0, 1, 1, 1, 1, 1);
+    }
+
+    private static void sharesSumToAll() {
+        CostBooks books = weighing(7, 0, 11, 1_000, 13, 17);
+        for (int cents : new int[] {0, 1, 2, 3, 4, 5, 6, 1_047, 1_048, 1_049, 99_999_999, 100_000_000}) {
+            long sum = 0;
+            for (int house = 0; house < 6; house++) {
+                sum += books.share(house, cents);
+            }
+            Check.same("shares of " + cents + " to the last cent", sum, (long) cents);
+        }
+    }
+
+    private static void edgesOfAWeight() {
+        for (int house = 0; house < 6; house++) {
+            int h = house;
+            CostBooks books = new CostBooks();
+            Check.does("the most of " + house, () -> books.weight(h, 1_000));
+            Check.answers("all for " + house, 99, () -> books.share(h, 99));
+            Check.answers("nothing for the next", 0, () -> books.share((h + 1) % 6, 99));
+            Check.does("the least of " + house, () -> books.weight(h, 0));
+            Check.refuses("nobody is left", Check.ARITHMETIC, () -> books.share(h, 99));
+            Check.does("one of " + house, () -> books.weight(h, 1));
+            Check.answers("all for one", 100_000_000, () -> books.share(h, 100_000_000));
+        }
+    }
+
     private static void weightRefusals() {
         CostBooks books = weighing(1, 1);
         for (int bad : Check.OUTSIDE_ALL) {
@@ -96,31 +139,7 @@ public final class ShareTest {
             }
             weights[chance.nextInt(6)] = 1 + chance.nextInt(most);
             int cents = chance.nextBoolean() ? chance.nextInt(100_000_001) : chance.nextInt(50);
-            shares(weighing(weights), cents, sharesBySorting(weights, cents));
+            shares(weighing(weights), cents, PlainBooks.shares(weights, cents));
         }
-    }
-
-    private static int[] sharesBySorting(int[] weights, int cents) {
-        BigInteger sum = BigInteger.ZERO;
-        for (int weight : weights) {
-            sum = sum.add(BigInteger.valueOf(weight));
-        }
-        int[] parts = new int[weights.length];
-        BigInteger[] remainders = new BigInteger[weights.length];
-        List<Integer> houses = new ArrayList<>();
-        int left = cents;
-        for (int i = 0; i < weights.length; i++) {
-            BigInteger product = BigInteger.valueOf(cents).multiply(BigInteger.valueOf(weights[i]));
-            parts[i] = product.divide(sum).intValueExact();
-            remainders[i] = product.mod(sum);
-            houses.add(i);
-            left -= parts[i];
-        }
-        // The sort is stable, so of the same remainders the lowest house stays first.
-        houses.sort(Comparator.comparing((Integer i) -> remainders[i]).reversed());
-        for (int i = 0; i < left; i++) {
-            parts[houses.get(i)]++;
-        }
-        return parts;
     }
 }

@@ -1,15 +1,13 @@
 import java.util.Random;
-import java.util.regex.Matcher;
-import java.util.regex.Pattern;
 
 /** Promises 8 to 10: sign, tariff, place. */
 public final class TariffTest {
-    private static final Pattern ROWS = Pattern.compile("([0-9]:(0|[1-9][0-9]{0,5})\\+(0|[1-9][0-9]{0,5});)*");
-
     public static void main(String[] args) {
         bytesHighestFirst();
         signRefusals();
         twoHundredBytes();
+        lastBytesOfTheTape();
+        everyNumberOfBytes();
         rightTexts();
         wrongTexts();
         emptyText();
@@ -18,6 +16,11 @@ public final class TariffTest {
         eachKindIsReplaced();
         textsForgetWhatWasBefore();
         bytesThatAreNoDigits();
+        eachBeginningOfAText();
+        eachByteAtEachPlace();
+        eachKindTwice();
+        numbersOfEachLength();
+        longestTexts();
         textsByChance();
         Check.finish("TariffTest");
     }
@@ -62,6 +65,48 @@ public final class TariffTest {
         Check.refuses("a wrong text", Check.STATE, books::tariff);
         Check.answers("place", 0, books::place);
         Check.answers("the tape is empty", 8, () -> books.sign(0, 8));
+    }
+
+    private static void lastBytesOfTheTape() {
+        CostBooks whole = new CostBooks();
+        for (int i = 0; i < 24; i++) {
+            whole.sign(0, 8);
+        }
+        Check.answers("8 bytes up to 200", 200, () -> whole.sign(0, 8));
+        for (int n = 1; n <= 8; n++) {
+            int many = n;
+            CostBooks books = new CostBooks();
+            for (int i = 0; i < 24; i++) {
+                books.sign(0, 8);
+            }
+            books.sign(0, 9 - n);
+            Check.refuses("one byte too many, by " + n, Check.NO_ROOM, () -> books.sign(0, many));
+            if (n > 1) {
+                Check.answers("just 200, by " + (n - 1), 200, () -> books.sign(0, many - 1));
+            }
+        }
+    }
+
+    private static void everyNumberOfBytes() {
+        String text = "7:123456+98765;8:0+1;9:22+333;";
+        for (int n = 1; n <= 8; n++) {
+            CostBooks books = new CostBooks();
+            for (int at = 0; at < text.length(); at += n) {
+                int many = Math.min(n, text.length() - at);
+                // All ones in front: bytes above the lowest n are none of the text.
+                long bytes = -1;
+                for (int i = 0; i < many; i++) {
+                    bytes = bytes << 8 | text.charAt(at + i);
+                }
+                long packed = bytes;
+                Check.answers("bytes by " + n, at + many, () -> books.sign(packed, many));
+            }
+            Check.answers("rows by " + n, 3, books::tariff);
+            books.bill(7, 60, 0, 0);
+            books.bill(9, 60, 0, 0);
+            Check.answers("a charge by " + n, 222_221, () -> books.billAt(0, 0));
+            Check.answers("a charge by " + n, 355, () -> books.billAt(1, 0));
+        }
     }
 
     private static void right(String text, int rows) {
@@ -208,13 +253,81 @@ public final class TariffTest {
         Check.refuses("177 is no digit", Check.STATE, books::tariff);
     }
 
+    private static void eachBeginningOfAText() {
+        String text = "3:120000+0;4:0+654321;0:7+8;";
+        for (int length = 0; length <= text.length(); length++) {
+            String beginning = text.substring(0, length);
+            if (length == 0 || beginning.endsWith(";")) {
+                right(beginning, beginning.split(";").length - (length == 0 ? 1 : 0));
+            } else {
+                wrong(beginning, length);
+            }
+        }
+    }
+
+    private static void eachByteAtEachPlace() {
+        String text = "3:10+0;4:0+654321;";
+        for (int at = 0; at < text.length(); at++) {
+            for (int b = 0; b < 256; b++) {
+                String other = text.substring(0, at) + (char) b + text.substring(at + 1);
+                int place = TariffWords.wrongAt(other);
+                if (place < 0) {
+                    right(other, 2);
+                } else {
+                    wrong(other, place);
+                }
+            }
+        }
+    }
+
+    private static void eachKindTwice() {
+        for (int kind = 0; kind < 10; kind++) {
+            int other = (kind + 1) % 10;
+            wrong(kind + ":1+1;" + kind + ":1+1;", 6);
+            wrong(kind + ":1+1;" + other + ":1+1;" + kind, 12);
+            wrong(kind + ":0+0;" + kind, 6);
+            right(kind + ":1+1;" + other + ":1+1;", 2);
+        }
+    }
+
+    private static void numbersOfEachLength() {
+        for (int digits = 1; digits <= 8; digits++) {
+            String number = "98765432".substring(0, digits);
+            String noughts = "10000000".substring(0, digits);
+            if (digits <= 6) {
+                right("1:" + number + "+0;", 1);
+                right("1:0+" + number + ";", 1);
+                right("1:" + noughts + "+" + noughts + ";", 1);
+            } else {
+                wrong("1:" + number + "+0;", 8);
+                wrong("1:0+" + number + ";", 10);
+                wrong("1:" + noughts + "+0;", 8);
+            }
+            wrong("1:0" + number + "+0;", 3);
+            wrong("1:0+0" + number + ";", 5);
+        }
+    }
+
+    private static void longestTexts() {
+        StringBuilder rows = new StringBuilder();
+        for (int kind = 0; kind < 10; kind++) {
+            rows.append(kind).append(":999999+999999;");
+        }
+        while (rows.length() < 200) {
+            rows.append(';');
+        }
+        wrong(rows.toString(), 160);
+        wrong(rows.replace(160, 200, "0:1+1;1:1+1;2:1+1;3:1+1;4:1+1;5:1+1;6:1+").toString(), 160);
+        wrong("1:1+1;" + "x".repeat(194), 6);
+    }
+
     private static void textsByChance() {
         Random chance = new Random(9);
         for (int i = 0; i < 20_000; i++) {
-            String text = textByChance(chance);
+            String text = TextsByChance.next(chance);
             CostBooks books = new CostBooks();
             Check.write(books, text);
-            int place = placeByPrefixes(text);
+            int place = TariffWords.wrongAt(text);
             if (place < 0) {
                 Check.answers("chance " + text, text.chars().filter(c -> c == ';').count(), books::tariff);
             } else {
@@ -222,49 +335,5 @@ public final class TariffTest {
             }
             Check.answers("chance place " + text, place, books::place);
         }
-    }
-
-    private static String textByChance(Random chance) {
-        StringBuilder text = new StringBuilder();
-        int rows = chance.nextInt(5);
-        for (int i = 0; i < rows; i++) {
-            text.append(chance.nextInt(10)).append(':').append(chance.nextInt(1 << chance.nextInt(21)));
-            text.append('+').append(chance.nextInt(1 << chance.nextInt(21))).append(';');
-        }
-        int faults = chance.nextInt(3);
-        for (int i = 0; i < faults && text.length() > 0; i++) {
-            int at = chance.nextInt(text.length());
-            if (chance.nextBoolean()) {
-                text.deleteCharAt(at);
-            } else {
-                text.setCharAt(at, "0129:+; x".charAt(chance.nextInt(9)));
-            }
-        }
-        return text.toString();
-    }
-
-    /** The document's words taken literally: the first byte with which no right text begins. */
-    private static int placeByPrefixes(String text) {
-        for (int i = 1; i <= text.length(); i++) {
-            if (!beginsRightText(text.substring(0, i))) {
-                return i - 1;
-            }
-        }
-        return ROWS.matcher(text).matches() ? -1 : text.length();
-    }
-
-    private static boolean beginsRightText(String prefix) {
-        Matcher matcher = ROWS.matcher(prefix);
-        if (!matcher.matches() && !matcher.hitEnd()) {
-            return false;
-        }
-        String kinds = "";
-        for (String row : prefix.split(";")) {
-            if (!row.isEmpty() && kinds.indexOf(row.charAt(0)) >= 0) {
-                return false;
-            }
-            kinds += row.isEmpty() ? "" : row.substring(0, 1);
-        }
-        return true;
     }
 }
